@@ -515,25 +515,15 @@ public final class MustNotStop {
         if (v < 0 || v > 9) {
             return NONE;
         }
-        int hearing = hearing(v);
+        int hearing = tower.people.hearing(v);
         int they = tower.people.persuadedBy(bell.doubting | hearing);
         tell(Integer.bitCount(they), Integer.bitCount(hearing));
         return they;
     }
 
-    private int hearing(int v) {
-        int they = 0;
-        for (int i = 0; i < MANY; i++) {
-            if (tower.people.has(i) && tower.people.firstOf(i) <= v) {
-                they |= 1 << i;
-            }
-        }
-        return they;
-    }
-
     public int frees() {
         for (int v = 0; v <= 9; v++) {
-            if (tower.people.persuadedBy(bell.doubting | hearing(v)) == tower.people.all()) {
+            if (tower.people.persuadedBy(bell.doubting | tower.people.hearing(v)) == tower.people.all()) {
                 return v;
             }
         }
@@ -1059,6 +1049,17 @@ public final class MustNotStop {
             return lines;
         }
 
+        /** Of TOWNSPEOPLE: those whose EAR is no longer than a silence. */
+        int hearing(int silence) {
+            int they = 0;
+            for (int i = 0; i < MANY; i++) {
+                if (has(i) && firstOf(i) <= silence) {
+                    they |= 1 << i;
+                }
+            }
+            return they;
+        }
+
         /** Of TOWNSPEOPLE: those that doubt in the end, if these do. */
         int persuadedBy(int they) {
             int doubting = they;
@@ -1447,13 +1448,7 @@ public final class MustNotStop {
 
         void minute(Bell bell) {
             ring(bell);
-            int hearing = 0;
-            for (int i = 0; i < MANY; i++) {
-                if (people.has(i) && bell.silent >= people.firstOf(i)) {
-                    hearing |= 1 << i;
-                }
-            }
-            bell.doubting |= hearing | people.moved(bell.doubting);
+            bell.doubting |= people.hearing(bell.silent) | people.moved(bell.doubting);
         }
 
         /** How many of the next MINUTES are rung ahead of the first that is not. */

@@ -256,11 +256,18 @@ public final class PromiseTest {
         }
         is("the empty one", x.rule(), 0);
         is("is s*10-t-w*3-f", x.loud(), 11);
+        x.set(0, 4);
+        x.set(1, 3);
+        x.mend(9);
+        is("WEIGHT, FROST, STRANDS", text(x, "w*100+f*999+r").rule(), 0);
+        is("LOUD", x.loud(), 3456);
+        x.set(0, 5);
+        x.set(1, 0);
         text(x, "7").rule();
         String forty = "1+1+1+1+1+1+1+1+1+1+1+1+1+1+1+1+1+1+1+10";
         Object[] bad = {"+", 0, "s+", 2, "s s", 1, "1234", 3, "1<2<3", 3, "1<2=3", 3, "1>2+1>3", 5, "s)", 1, "(s", 2,
             "(((((s", 4, "((((1<2)))<3)<4<5", 15, "()", 1, "x", 0, "2s", 1, "s2", 1, "-", 1, "1+*2", 2, "(1<2<3)", 4,
-            "s(", 1, "(s))", 3, "1+(", 3, "S", 0, "<1", 0, "1<", 2, "=", 0, "12 ", 2, "1\u00e9", 1, "(s)1", 3, "(s)s", 3,
+            "s(", 1, "(s))", 3, "1+(", 3, "S", 0, "<1", 0, "1<", 2, "=", 0, "12 ", 2, "1\u00e9", 1, "(s)1", 3, "(s)s", 3, "(1)2", 3, "1+(2)3", 5, "12+3456", 6,
             forty + "+", 40, forty + "1", 40, forty + "x", 40, "1" + forty, 40, "1234" + forty, 3, "x" + forty, 0,
             "1+1+1+1+1+1+1+1+1+1+1+1+1+1+1+1+1+1+1+1+1", 40, "1+1+1+1+1+1+1+1+1+1+1+1+1+1+1+1+1+1+1+1+", 40,
             "(1+1+1+1+1+1+1+1+1+1+1+1+1+1+1+1+1+1+1+1", 40, "(1+1+1+1+1+1+1+1+1+1+1+1+1+1+1+1+1+1+1+1)", 40};
@@ -549,7 +556,9 @@ public final class PromiseTest {
         is("THE ROPE", x.count(2), 13);
         is("none such: neither", text(x, "c08").watch(), 0);
         is("THE ROPE", x.count(2), 13);
+        int kept = x.count(14);
         is("itself", text(x, "c00").watch(), 1);
+        is("one ACT is kept", x.count(14), kept + 1);
         is("THE ROPE", x.count(2), 13);
         is("3 are there", text(x, "t1").watch(), 0);
 
@@ -619,6 +628,7 @@ public final class PromiseTest {
         is("..", x.count(14), 1);
         is("refused ones neither", text(x, "0").ringers() + text(x, "0").town(), -2);
         is("..", x.count(14), 1);
+        undoneAlone();
         x.keep(0);
         text(x, "11").town();
         is("town() forgets them", x.count(14), 0);
@@ -631,6 +641,40 @@ public final class PromiseTest {
         x.mend(1);
         x.again(0);
         is("again() forgets them", x.undo(), -1);
+    }
+
+    /** Each deed is undone to what was just ahead of it, whatever was undone or set before. */
+    static void undoneAlone() {
+        for (int deed = 0; deed < 5; deed++) {
+            MustNotStop x = bell("35;17;94", "10", "");
+            x.take(1);
+            x.years(1, 9);
+            x.minutes(7);
+            x.undo();
+            x.take(0);
+            x.minutes(4);
+            x.again(0);
+            x.keep(1);
+            x.sheet(2, 3, 11, 11);
+            x.keep(2);
+            x.again(2);
+            is("none", x.count(14), 0);
+            if (deed == 0) {
+                x.take(2);
+            } else if (deed == 1) {
+                x.leave(0);
+            } else if (deed == 2) {
+                x.mend(7);
+            } else if (deed == 3) {
+                x.minutes(3);
+            } else {
+                text(x, "t2;8;m3").watch();
+            }
+            is("one", x.count(14), 1);
+            is("undone", x.undo(), 0);
+            state(x, "deed " + deed, 3, 50, 4, 4, 0, 0, 48, 0);
+            is("TIRED", tired(x, 0) * 10000 + tired(x, 1) * 100 + tired(x, 2), 112233);
+        }
     }
 
     static void lastsAndHush() {
@@ -696,6 +740,7 @@ public final class PromiseTest {
         row(x, "the ROW stays", 7, 3);
         is("0", x.team(0), -1);
         is("121", x.team(121), -1);
+        is("all three", bell("31;31;42", "", "s-9").team(1), 3);
         x = bell("31;31;42", "", "s-6");
         x.take(2);
         is("two", x.team(1), 2);
@@ -746,6 +791,7 @@ public final class PromiseTest {
         is("now, and none longer", x.silence(30), 4);
         row(x, "now, and none longer", 0, 47);
         x.leave(2);
+        is("one MINUTE", x.silence(1), 5);
         is("it goes on", x.silence(2), 6);
         row(x, "it goes on", 2, 50);
         is("0", x.silence(0), -1);
@@ -802,6 +848,16 @@ public final class PromiseTest {
         x.mend(49);
         is("till the rope is gone", x.swap(), 990);
         row(x, "1 for 0", 1, 0);
+        x = bell("10;50;90;70", "", "s-t");
+        x.take(0);
+        x.take(1);
+        is("14-4t", x.swap(), 4);
+        row(x, "the weaker one for the stronger one", 0, 2);
+        x = bell("70;20;10;60", "", "s-t");
+        x.take(0);
+        x.take(2);
+        is("13-4i", x.swap(), 4);
+        row(x, "the weakest one for the strongest one", 2, 3);
 
         promise = 25;
         x = bell("31;42;40", "", "s*3-t");
@@ -840,6 +896,24 @@ public final class PromiseTest {
         row(x, "TIRED 40", 40);
         x = bell("91;91", "", "(m=59)*(r<44)");
         is("nobody rings meanwhile", x.ready(0, 1), -2);
+        x = bell("91;91", "", "(n=2)+(r<38)");
+        x.take(0);
+        x.take(1);
+        is("the other alone is not two", x.ready(0, 1), -2);
+        // The other one rings 120 MINUTES: 12 STRANDS less behind the last.
+        x = bell("91;21", "", "(s=2)+(s=9)*(r<39)");
+        x.take(1);
+        is("by 120", x.ready(0, 1), 120);
+        text(x, "(s=2)+(s=9)*(r<38)").rule();
+        is("not by 120", x.ready(0, 1), -2);
+        x.minutes(1);
+        text(x, "(s=2)+(s=9)*(r<39)").rule();
+        is("119 more", x.ready(0, 1), 119);
+        x.minutes(8);
+        text(x, "(s=2)+(s=9)*(r<38)").rule();
+        is("121 are too many", x.ready(0, 1), -2);
+        x.minutes(1);
+        is("120", x.ready(0, 1), 120);
     }
 
     static void rotas() {
@@ -1041,8 +1115,23 @@ public final class PromiseTest {
         is("an empty one: none", x.law(), 18 - 1000);
         row(x, "an empty one: none", 18, 1000);
 
+        x = bell("35;17;94", "", "");
+        x.take(0);
+        x.set(0, 7);
+        x.set(1, 2);
+        is("WEIGHT and FROST as they are", text(x, "s*10-t-w*3-f+1").law(), 0);
+        row(x, "30-21-2+1, 30-21-2", 7, 7);
+        is("..", text(x, "s*10-t-w*3-f+2").law(), 1);
+        row(x, "30-21-2+2, 30-21-2", 8, 7);
+
         promise = 35;
         x = bell("21;10;30", "", "");
+        x.set(0, 9);
+        is("30-27-2", x.frozen(2), 4);
+        is("30-27-3", x.frozen(3), 0);
+        x.set(0, 5);
+        is("9", x.frozen(9), 4);
+        is("0", x.frozen(0), 5);
         is("20-15-4, 30-15-4", x.frozen(4), 5);
         row(x, "two", 2);
         is("30-15-5", x.frozen(5), 4);
@@ -1071,6 +1160,9 @@ public final class PromiseTest {
         is("30", x.heaviest(120), 30);
         text(x, "8-(w-7)*(w-7)").rule();
         is("9", x.heaviest(1), 9);
+        text(x, "").rule();
+        x.set(1, 3);
+        is("FROST as it is: 30-24-3", x.heaviest(1), 8);
     }
 
     static void whoRang() {
@@ -1144,6 +1236,17 @@ public final class PromiseTest {
         is("one alone", bell("90", "", "").rows(), 0);
         is("two", bell("90;80", "", "").rows(), 2);
         is("eight", bell("11;22;33;44;55;66;77;88", "", "").rows(), 8 * 7 * 7 * 7 * 7 * 7);
+        x = bell("20;30", "", "");
+        x.noted(3, 6, 0);
+        x.sheet(2, 2, 50, 0);
+        is("the first is not TIRED, too", x.rows(), 1);
+        row(x, "one alone", 1, 0, 1, 0, 1, 0);
+        x.noted(3, 5, 1);
+        is("the first of those with one", x.ask(), 0);
+        row(x, "one", 1);
+        x.forget();
+        is("at once", x.ask(), 0);
+        row(x, "two", 2);
         x = bell("90;80", "", "m");
         x.minutes(5);
         x.noted(0, 5, 1);
@@ -1181,6 +1284,9 @@ public final class PromiseTest {
             is("risk(" + r[0] + ")", x.risk(r[0]), r[1]);
         }
         row(x, "no ROW of its own");
+        x = bell("20;30;40", "", "");
+        is("999 in 1000 are not 100 in 100", x.risk(100), 0);
+        is("999 in 1000", x.risk(99), 2);
         x = bell("10", "", "");
         is("nobody can", x.risk(1), -2);
         is("0 always", x.risk(0), 10);
@@ -1243,6 +1349,14 @@ public final class PromiseTest {
         x.take(2);
         is("the fourth is drawn: 3 are there", x.years(3, 1), 0);
         row(x, "the fourth is drawn", 1, 6, 0);
+        x = bell("10;50;30", "10", "s-4");
+        x.minutes(4);
+        x.take(1);
+        x.minutes(5);
+        x.leave(1);
+        x.set(2, 0);
+        is("STOPS in these alone", x.years(5, 6), 1);
+        row(x, "rung in these alone", 5, 26, 1);
         x = bell("90", "", "");
         // One more TIRED in two MINUTES: 75-t rings 75 times, and 99 is the end of it.
         is("one: by turns", x.years(-1, 300), 1);
@@ -1250,6 +1364,10 @@ public final class PromiseTest {
     }
 
     static void kept() {
+        promise = 48;
+        for (int i = -1; i <= 3; i++) {
+            is("a new one", new MustNotStop().again(i), false);
+        }
         promise = 47;
         MustNotStop x = bell("35;17;94", "10", "");
         is("3", x.keep(3), false);
@@ -1264,6 +1382,9 @@ public final class PromiseTest {
         promise = 48;
         is("nothing kept", x.again(1), false);
         is("none such", x.again(3), false);
+        is("none such", x.again(32), false);
+        is("none such", x.keep(32), false);
+        is("none such", x.again(Integer.MIN_VALUE), false);
         is("none such", x.again(-1), false);
         state(x, "as it was", 5, 50, 18, 8, 10, 1, 90, 1);
         x.mend(40);
