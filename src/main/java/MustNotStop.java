@@ -869,12 +869,15 @@ public final class MustNotStop {
     }
 
     private void tell(long a, long b) {
-        tell(a);
+        told.clear();
+        told.add(a);
         told.add(b);
     }
 
     private void tell(long a, long b, long c) {
-        tell(a, b);
+        told.clear();
+        told.add(a);
+        told.add(b);
         told.add(c);
     }
 
