@@ -484,7 +484,13 @@ public final class BoundaryTest {
 
     static void termsRuleOrder() {
         says(TERMS, "THE RULE is a text of at most 40 signs (at first none: s*10-t-w*3-f).");
-        MustNotStop x = plain();
+        MustNotStop x = new MustNotStop();
+        read(x, "35").ringers();
+        is(x.ringer(0, 4), 15);
+        x.take(0);
+        is(x.minutes(9), 8);
+        is(x.law(), 0);
+        x = plain();
         is(x.loud(), 11);
         x.set(0, 1);
         is(x.loud(), 23);
@@ -1201,8 +1207,8 @@ public final class BoundaryTest {
         says(6, "-1 - p: the sign at p can't stand there");
         String[] texts = {"x", "S", "+", "*1", ")", ";", " s", "s s", "2s", "s2", "ss", "s(", "(s)(", "(s)2", "(s)s", "s)", "1+)",
             "1+*2", "s--", "1=<2", "1<=2", "\0", "s\u00ff", "(-)", "2~3", "~3",
-            "(1)2", "((12))3", "(1)s", ":", "1:", "/"};
-        int[] at = {0, 0, 0, 0, 0, 0, 0, 1, 1, 1, 1, 1, 3, 3, 3, 1, 2, 2, 3, 2, 2, 0, 1, 2, 1, 0, 3, 6, 3, 0, 1, 0};
+            "(1)2", "((12))3", "(1)s", ":", "1:", "/", "s+s)", "(s)+s)", "-s)"};
+        int[] at = {0, 0, 0, 0, 0, 0, 0, 1, 1, 1, 1, 1, 3, 3, 3, 1, 2, 2, 3, 2, 2, 0, 1, 2, 1, 0, 3, 6, 3, 0, 1, 0, 3, 5, 2};
         for (int i = 0; i < texts.length; i++) {
             belowByText(rungBy("35", "7"), texts[i], -1 - at[i], y -> y.rule());
         }
@@ -2673,7 +2679,25 @@ public final class BoundaryTest {
         x.keep(2);
         below(x, 0, y -> y.again(1) ? 1 : 0);
         is(x.again(2), true);
+        keptAheadOfThem(y -> read(y, "55").ringers());
+        keptAheadOfThem(y -> read(y, "55").town());
         countsAndRows();
+    }
+
+    static void keptAheadOfThem(Call come) {
+        MustNotStop x = new MustNotStop();
+        for (int i = 0; i <= 2; i++) {
+            is(x.keep(i), true);
+        }
+        is(come.on(x), 1);
+        for (int i = 0; i <= 2; i++) {
+            int number = i;
+            below(x, 0, y -> y.again(number) ? 1 : 0);
+        }
+        for (int i = 0; i <= 2; i++) {
+            is(x.keep(i), true);
+            is(x.again(i), true);
+        }
     }
 
     /** "An object is used for at most 512 calls after it has been made". */
